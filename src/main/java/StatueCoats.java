@@ -492,13 +492,13 @@ public final class StatueCoats {
         private static final int LONGEST = 47;
 
         final int[] bytes = new int[LONGEST];
-        final int most;
+        final int limit;
         int length;
         int firstFault = NONE;
         int things;
 
-        Text(int most) {
-            this.most = most;
+        Text(int limit) {
+            this.limit = limit;
         }
 
         abstract boolean goesOnAt(int at);
@@ -507,7 +507,7 @@ public final class StatueCoats {
         abstract int wholeThings();
 
         final boolean isFull() {
-            return length >= most || length >= bytes.length;
+            return length >= limit || length >= bytes.length;
         }
 
         final boolean holds(int thing) {
@@ -531,7 +531,7 @@ public final class StatueCoats {
             return at >= 0 && at < length && at < bytes.length ? bytes[at] : NONE;
         }
 
-        /** Looks at the place itself rather than through byteAt, to keep the calls that stand open few. */
+        /** Looks at the place itself rather than through byteAt: the rules bound how deep calls go. */
         final int figureAt(int at) {
             return at >= 0 && at < length && at < bytes.length ? bytes[at] - '0' : 0;
         }
@@ -948,16 +948,18 @@ public final class StatueCoats {
         }
 
         private int dressOne(int row, int statue, int taken) {
-            int best = NONE;
-            int free = suitingBits(row, statue) & ~taken;
-            for (int c = 0; c < clothes.things; c++) {
-                if ((free >> c & 1) != 0 && (best == NONE || largeAt(row, c) < largeAt(row, best))) {
+            if (!isIn(row, statue)) {
+                return 0;
+            }
+            int best = NONE, bestLarge = 0;
+            int free = suiting[row][statue] & ~taken;
+            for (int c = 0; c < THINGS; c++) {
+                if ((free >> c & 1) != 0 && (best == NONE || large[row][c] < bestLarge)) {
                     best = c;
+                    bestLarge = large[row][c];
                 }
             }
-            if (isIn(row, statue)) {
-                worn[row][statue] = best;
-            }
+            worn[row][statue] = best;
             return best == NONE ? 0 : 1 << best;
         }
     }

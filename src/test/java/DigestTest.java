@@ -5,6 +5,7 @@ public final class DigestTest {
     public static void main(String[] args) {
         StatueCoats empty = new StatueCoats();
         same("empty", empty);
+        same("one statue", Check.town("130n", "10w01", "r"));
         same("faults", Check.town("5", "0", "?"));
         StatueCoats x = Check.town("502n;430s;311n;695n;602s", "60w35;45l22;52h11;33w43;65w53;60l21", "rfsmrmfrs");
         x.set(1, 1);

@@ -76,6 +76,9 @@ public final class MonthsTest {
         Check.dueRow("larger ones first", s -> y.wears(0, s), 2, 1, 0, Check.BAD);
         y.set(1, 0);
         Check.dueRow("as told again", s -> y.wears(0, s), 1, 0, 2, Check.BAD);
+        StatueCoats z = Check.town("100n;900n;200n", "99l01;20l01;22l01", "");
+        z.set(1, 1);
+        Check.dueRow("the smallest last", s -> z.wears(0, s), 2, 0, 1, Check.BAD);
         Check.due("wears months 1", y.wears(1, 0), Check.BAD);
         Check.due("wears months -1", y.wears(-1, 0), Check.BAD);
         Check.due("wears statue -1", y.wears(0, -1), Check.BAD);
@@ -108,6 +111,8 @@ public final class MonthsTest {
         StatueCoats y = Check.town("400s;500n;600n", "", "rf");
         Check.due("the month, not those behind it", y.freezes(0), 1);
         Check.due("the least", y.freezes(1), 1);
+        StatueCoats z = Check.town("400n;500n", "", "f");
+        Check.dueRow("the first month, the first statue", z::freezes, 0, 0, Check.BAD);
     }
 
     private static void changing() {

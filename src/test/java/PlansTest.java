@@ -28,6 +28,8 @@ public final class PlansTest {
         StatueCoats w = Check.town("500n;500n", "50w01", "");
         Check.dueRow("none is more than any", i -> w.most(0, i), 0, -1, -1);
         Check.due("one", w.most(0, Check.NONE), 1);
+        StatueCoats v = Check.town("900n;500n", "50w01;51w01", "");
+        Check.dueRow("a bare one takes nothing", i -> v.most(0, i), -1, 0, -1);
     }
 
     private static void mostFull() {

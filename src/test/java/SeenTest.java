@@ -73,6 +73,15 @@ public final class SeenTest {
         Check.due("one more", x.read(0), 1);
         Check.due("both count", x.swapped(0), 1);
         Check.due("0 and 1", x.swapped(1), 1);
+        x.forget();
+        x.sheet(0, 2, 9);
+        int[] items = {0, 0, 0, 0, 1, 2, 0, 2, 1};
+        for (int i = 0; i < items.length; i++) {
+            x.lay(0, 2, i, items[i]);
+        }
+        Check.due("three by threes", x.read(0), 3);
+        Check.due("1 and 2", x.swapped(1), 8 + 2);
+        Check.due("and no other", x.swapped(0), 1);
     }
 
     private static void swapped() {
@@ -121,6 +130,13 @@ public final class SeenTest {
         Check.due("0 and 2 tell more behind rain", y.look(1), 1);
         Check.due("0 wears its own in one of three", y.look(0), 1);
         Check.due("2 is seen bare in all but one", y.look(2), 1);
+        Check.retype(y, 1, "11w01;22w01");
+        Check.due("one is bare still", y.look(0), 1);
+        Check.retype(y, 1, "11w01;22w01;33w01");
+        StatueCoats z = Check.town("100n;200n", "99l01;99l01;99l01;99l01;99l01;99l01;99l01;22w01", "r");
+        z.set(0, 0);
+        Check.due("the last of clothes", z.wears(1, 1), 7);
+        Check.due("one pair wears alike anyhow", z.look(0), 0);
         Check.retype(y, 2, "");
         Check.due("no months, no choice", y.look(1), 0);
         Check.retype(y, 2, "..");
@@ -207,5 +223,11 @@ public final class SeenTest {
         Check.due("cloth -2", x.weather(1, 1, -2), Check.BAD);
         Check.due("linen behind forty", x.weather(Integer.MIN_VALUE, 40, 1), 51);
         Check.due("the seasons are as they were", x.wears(0, 0), 0);
+        Check.retype(x, 2, "rrrrrrrrrrrrrrrrrrrrrrrr");
+        Check.due("behind all months", x.is(24, 0, 0), 9);
+        x.weather(0, 1, 0);
+        x.weather(0, 1, Check.NONE);
+        Check.due("weather leaves them", x.is(24, 0, 0), 9);
+        Check.due("and who wears what", x.behind(24, 0), 2);
     }
 }

@@ -29,9 +29,10 @@ public final class SheetsTest {
         Check.due("below 0", x.sheet(3, 0, -1), Check.SIZE);
         Check.due("told", x.count(8), 5);
         Check.due("as it was", x.get(3, 2, 59), 0);
-        x.lay(3, 2, 5, 77);
-        Check.due("a new row", x.sheet(3, 2, 6), 6);
-        Check.due("0 at first", x.get(3, 2, 5), 0);
+        x.lay(3, 2, 0, 76);
+        x.lay(3, 2, 59, 77);
+        Check.due("a new row", x.sheet(3, 2, 60), 60);
+        Check.dueRow("0 at first", i -> x.get(3, 2, i), new long[60]);
     }
 
     private static void losing() {
@@ -160,7 +161,9 @@ public final class SheetsTest {
         }
         x.sheet(0, 2, 2);
         Check.due("as many as there are items", x.write(0, 0), 2);
+        Check.due("no finding yet", x.count(8), 0);
         Check.due("a lost one", x.write(0, 3), Check.NULL);
+        Check.due("told", x.count(8), 1);
         Check.due("BAD ahead of NULL", x.write(2, 3), Check.BAD);
         Check.due("months -1", x.write(-1, 0), Check.BAD);
         Check.due("sheet 4", x.write(0, 4), Check.BAD);
