@@ -1,3 +1,9 @@
+import java.lang.reflect.InvocationTargetException;
+import java.lang.reflect.Method;
+import java.lang.reflect.Modifier;
+import java.util.Arrays;
+import java.util.Comparator;
+
 /** What the tests of the project share: due answers, and towns typed from plain texts. */
 final class Check {
     static final int NONE = -1, BAD = -2, NOT = -3, FULL = -4;
@@ -6,6 +12,7 @@ final class Check {
 
     private static int asked;
     private static int wrong;
+    private static String running = "";
 
     private Check() {
     }
@@ -15,7 +22,7 @@ final class Check {
         if (got != want) {
             wrong++;
             if (wrong <= 40) {
-                System.out.println(call + " answered " + got + ", due is " + want);
+                System.out.println(running + call + " answered " + got + ", due is " + want);
             }
         }
     }
@@ -52,6 +59,46 @@ final class Check {
         typeAll(x, 1, clothes);
         typeAll(x, 2, seasons);
         return x;
+    }
+
+    /**
+     * Runs each case of a test: its static methods without parameters whose names tell the promise's number (p07_..) or
+     * the part of the document ahead of the promises (terms_..); each promise from first to last must have one.
+     */
+    static void cases(Class<?> test, int first, int last) {
+        Method[] methods = test.getDeclaredMethods();
+        Arrays.sort(methods, Comparator.comparing(Method::getName));
+        boolean[] isHeld = new boolean[last + 1];
+        for (Method method : methods) {
+            String name = method.getName();
+            boolean isCase = name.matches("(p[0-9]{2}|terms|face)_.+") && method.getParameterCount() == 0;
+            if (!isCase || !Modifier.isStatic(method.getModifiers())) {
+                continue;
+            }
+            int before = asked;
+            runCase(method);
+            dueTrue(name + " asks something", asked > before);
+            int promise = name.charAt(0) == 'p' ? Integer.parseInt(name.substring(1, 3)) : -1;
+            if (promise >= 0 && promise <= last) {
+                isHeld[promise] = true;
+            }
+        }
+        for (int promise = first; promise <= last; promise++) {
+            dueTrue("promise " + promise + " has a case", isHeld[promise]);
+        }
+    }
+
+    private static void runCase(Method method) {
+        running = method.getName() + ": ";
+        try {
+            method.setAccessible(true);
+            method.invoke(null);
+        } catch (InvocationTargetException thrown) {
+            dueTrue("it throws " + thrown.getCause(), false);
+        } catch (IllegalAccessException closed) {
+            dueTrue("it cannot be run", false);
+        }
+        running = "";
     }
 
     static void end(String name) {
