@@ -112,7 +112,9 @@ final class Twins {
         return shown;
     }
 
+    /** A finding ahead of all, so that what was found before is not shown. */
     private static void showSheet(StatueCoats x, int s, List<Long> shown) {
+        shown.add((long) x.sheet(s, 0, -1));
         for (int form = 0; form < 3; form++) {
             for (int i = 0; i < WIDEST; i++) {
                 shown.add((long) x.get(s, form, i));
