@@ -96,6 +96,17 @@ public final class EdgesPlansTest {
         Check.dueRow("most", i -> x.most(0, i), 0, NONE, NONE);
     }
 
+    static void p16_fewerBehindMore() {
+        StatueCoats x = Check.town(EIGHT_STATUES, EIGHT_CLOTHES, "");
+        x.most(0, NONE);
+        Check.retype(x, 0, "100n;200n");
+        Check.due("one of two", x.most(0, NONE), 1);
+        Check.dueRow("fewer statues", i -> x.most(0, i), 0, NONE, NONE, NONE, NONE, NONE, NONE, NONE, BAD);
+        x.wipe(0);
+        Check.due("none of none", x.most(0, NONE), 0);
+        Check.due("none of none", x.most(0, 0), NONE);
+    }
+
     // ---- promise 17
 
     static void p17_statueBelow0AndNotThere() {

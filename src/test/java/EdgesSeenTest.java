@@ -409,6 +409,25 @@ public final class EdgesSeenTest {
         Check.due("no ninth", x.look(8), BAD);
     }
 
+    static void p23_theLastOfClothesIsAlikeToo() {
+        // 0 wears the first of clothes, behind moths the last: in three of six pairs it keeps its own either way.
+        StatueCoats x = Check.town("100n;200n;300n;400n", "10w01;20l01;30l01;40l01;99l01;99l01;99l01;12l01", "m");
+        Check.dueRow("wears", m -> x.wears(m, 0), 0, 7, BAD);
+        Check.due("look", x.look(0), 0);
+    }
+
+    static void p23_theLastOfEightTellsBehindRain() {
+        // By what was seen 0, 1 or 7 changed; before rain 0 and 1 are both bare.
+        StatueCoats x = Check.town("100n;200n;300n;400n;500n;600n;700n;800n",
+            "11w01;22w01;30l01;40l01;50l01;60l01;70l01;80l01", "r");
+        x.set(0, 0);
+        for (int s = 2; s < 7; s++) {
+            x.seen(1, s, s);
+        }
+        Check.dueRow("pairs", x::swapped, 3, 1, BAD);
+        Check.due("look", x.look(7), 1);
+    }
+
     // ---- promise 24
 
     private static void fraction(StatueCoats x, int c, int cloth, int months, long above, long below) {
@@ -620,6 +639,19 @@ public final class EdgesSeenTest {
 
     static void p25_itChangesNothing() {
         Twins.refused("weather", x -> x.weather(LEAST, 40, 0) * 0 + x.weather(GREATEST, 40, NONE) * 0, 0);
+    }
+
+    static void p25_behindAll24MonthsAllStays() {
+        StatueCoats x = Check.town("100n", "99w09;12l01", "rrrrrrrrrrrrrrrrrrrrrrrr");
+        x.set(0, 2);
+        for (int k = 0; k < 2; k++) {
+            Check.due("behind 23", x.is(23, 0, 0), 13);
+            Check.due("behind 24", x.is(24, 0, 0), 12);
+            Check.due("wears behind 24", x.wears(24, 0), 0);
+            Check.due("wears behind 23", x.wears(23, 0), 1);
+            x.weather(7, 40, 0);
+            x.weather(GREATEST, 1, NONE);
+        }
     }
 
     static void p25_theSameSeedTheSameAnswer() {

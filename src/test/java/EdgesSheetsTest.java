@@ -626,6 +626,37 @@ public final class EdgesSheetsTest {
             -1, 1, 0, 0, -1, -1, -1, 1, 0, 0, -1, -1, 0, 0, 4, 0, 0, -1, 0));
     }
 
+    /** Each number told by hand: 0 is bare behind all and freezes, 1 is always dressed, 2 and 3 behind rain. */
+    static void p33_ofAWholeTown() {
+        StatueCoats x = Check.town("121n;231s;390n;400s", "11w13;33w25;44w09;20l32", "mrmf");
+        x.set(0, 1);
+        x.seen(0, 0, NONE);
+        Check.due("digest", x.digest(), fold(4, 4, 4, 19, 23, 4, 1, 1, -1, -1, -1,
+            1, 2, 1, 1, 1, 2, 2, 3, 1, 0, 0, 0, 3, 9, 0, 1, 1, 0, 4, 0, 0, 0, 1, 0,
+            11, 0, 1, 3, 231, 256, 9, 33, 0, 2, 5, 1, 1, 27, 44, 0, 0, 9, 1, 1, 36, 20, 1, 3, 2, 1, 1, 20,
+            0, 3, -1, -1, 11, 1, 3, 1, 33, 2, 5, 0, 44, 0, 9, 0, 20, 3, 2, 2, 12, 0, 2, 0, 11,
+            -1, 3, 1, 2, 10, 1, 0, 0, 30, 2, 1, 4, 40, 0, 5, 8, 20, 3, 2, 2, 1, 1, 3, -1, 6,
+            3, 0, 24, 3, 2, 2, 1));
+    }
+
+    static void p33_sewOfJust60() {
+        StatueCoats x = Check.town("", "59l01;60l02", "");
+        Check.due("digest", x.digest(), fold(0, 2, 0, 0, 11, 0, 15, 0, -1, -1, -1,
+            59, 1, 0, 1, 1, 1, 59, 60, 1, 0, 2, 1, 1, 60,
+            59, 0, 1, 0, 60, 0, 2, 0, 0, 0, 0, -1, 2, 59, 0, 1, 0, 60, 0, 2, 0, 0, 0, 0, -1, 2,
+            -1, -1, BAD, BAD, 0, -1, 0));
+    }
+
+    /** By seed 7 rain comes in months 1 and 4, moths in 3 and 6 of nine; a tenth month would bring rain. */
+    static void p33_weatherOfSeed7BehindNine() {
+        StatueCoats x = Check.town("800n;800n", "99w02;99w03;99w09", "");
+        Check.due("digest", x.digest(), fold(2, 3, 0, 9, 17, 0, 15, 0, -1, -1, -1, 8, 0, 0, 1, 0, 0, 8, 0, 0, 1, 0, 0,
+            99, 0, 0, 2, 1, 1, 90, 99, 0, 0, 3, 1, 1, 81, 99, 0, 0, 9, 1, 1, 81,
+            -1, -1, 99, 0, 2, 0, 99, 0, 3, 0, 99, 0, 9, 0, 3, 0, 0, -1, 1,
+            -1, -1, 99, 0, 2, 0, 99, 0, 3, 0, 99, 0, 9, 0, 3, 0, 0, -1, 1,
+            -1, -1, 3, 0, 1, 1, 1));
+    }
+
     static void p33_faultsEnter() {
         StatueCoats x = Check.town("1", "10", "rr?");
         Check.due("digest", x.digest(), fold(0, 0, 0, 1, 2, 3, 15, 0, 1, 2, 2,

@@ -422,6 +422,15 @@ public final class EdgesTextsTest {
         }
     }
 
+    static void p02_answersFollow() {
+        StatueCoats x = Check.town("500n", "50w01", "");
+        Check.due("before", x.wears(0, 0), 0);
+        x.type(2, 'm');
+        Check.due("a month more", x.wears(1, 0), Check.NONE);
+        x.type(1, ';');
+        Check.due("a fault", x.wears(0, 0), Check.NONE);
+    }
+
     private static StatueCoats filled(int text, int bytes) {
         StatueCoats x = new StatueCoats();
         for (int k = 0; k < bytes; k++) {
@@ -473,6 +482,14 @@ public final class EdgesTextsTest {
         x.type(2, 'm');
         Check.due("the first", x.season(0), 4);
         Check.due("no second", x.season(1), Check.NONE);
+    }
+
+    static void p03_answersFollow() {
+        StatueCoats x = Check.town("500n", "50l01", "");
+        Check.due("before", x.wears(0, 0), 0);
+        x.wipe(1);
+        Check.due("no clothes", x.wears(0, 0), Check.NONE);
+        Check.due("nobody is dressed", x.behind(0, 0), 1);
     }
 
     // ---- promise 4
@@ -531,6 +548,13 @@ public final class EdgesTextsTest {
         x.type(2, 'm');
         Check.due("the first", x.season(0), 4);
         Check.due("no second", x.season(1), Check.NONE);
+    }
+
+    static void p04_answersFollow() {
+        StatueCoats x = Check.town("500n", "50l01", "");
+        Check.due("before", x.wears(0, 0), 0);
+        x.undo(1);
+        Check.due("not ended", x.wears(0, 0), Check.NONE);
     }
 
     // ---- promise 5
@@ -708,6 +732,16 @@ public final class EdgesTextsTest {
         Check.due("slack", x.count(6), 15);
         x.set(0, 0);
         Check.due("way", x.set(1, 1), 1);
+    }
+
+    static void p09_answersFollow() {
+        StatueCoats x = Check.town("400n;500n", "50l01", "");
+        Check.dueRow("at first", s -> x.wears(0, s), 0, Check.NONE);
+        x.set(1, 1);
+        Check.dueRow("by way 1", s -> x.wears(0, s), Check.NONE, 0);
+        x.set(1, 0);
+        x.set(0, 9);
+        Check.dueRow("by slack 9", s -> x.wears(0, s), Check.NONE, 0);
     }
 
     static void p09_wipingLeavesBoth() {
